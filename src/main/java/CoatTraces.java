@@ -150,7 +150,7 @@ public final class CoatTraces {
         }
         past.remember(state);
         state.addPerson(sex, arms, father, mother);
-        reckon();
+        reckonAll();
         return state.people() - 1;
     }
 
@@ -197,9 +197,9 @@ public final class CoatTraces {
         }
         for (int i = 0; i < n && state.hasRoom(); i++) {
             past.remember(state);
-            draws.addPerson(state);
+            draws.addOne(state);
         }
-        reckon();
+        reckonAll();
         return state.people();
     }
 
@@ -211,7 +211,7 @@ public final class CoatTraces {
             return NOT;
         }
         past.stepBack(state, n);
-        reckon();
+        reckonAll();
         return state.people();
     }
 
@@ -252,7 +252,7 @@ public final class CoatTraces {
         if (i < 0 || i >= IMAGES) {
             return UNKNOWN;
         }
-        images.lay(i, state, draws);
+        images.store(i, state, draws);
         past.deeds = 0;
         return 1;
     }
@@ -261,12 +261,12 @@ public final class CoatTraces {
         if (i < 0 || i >= IMAGES) {
             return UNKNOWN;
         }
-        if (!images.wasLaid(i)) {
+        if (!images.isStored(i)) {
             return NOT;
         }
-        images.fetch(i, state, draws);
+        images.restore(i, state, draws);
         past.deeds = 0;
-        reckon();
+        reckonAll();
         return 1;
     }
 
@@ -285,7 +285,7 @@ public final class CoatTraces {
         return years.spoiledBit();
     }
 
-    private void reckon() {
+    private void reckonAll() {
         coats.reckon(state);
         years.reckon(state);
     }
@@ -461,29 +461,29 @@ public final class CoatTraces {
     private static final class Images {
         final Shelf shelf;
         final int[] seeds;
-        final boolean[] laid;
+        final boolean[] stored;
 
         Images() {
             shelf = new Shelf(IMAGES);
             seeds = new int[IMAGES];
-            laid = new boolean[IMAGES];
+            stored = new boolean[IMAGES];
         }
 
-        boolean wasLaid(int i) {
-            return i >= 0 && i < IMAGES && laid[i];
+        boolean isStored(int i) {
+            return i >= 0 && i < IMAGES && stored[i];
         }
 
-        void lay(int i, State state, Draws draws) {
+        void store(int i, State state, Draws draws) {
             if (i < 0 || i >= IMAGES) {
                 return;
             }
             shelf.lay(i, state);
             seeds[i] = draws.seedNow;
-            laid[i] = true;
+            stored[i] = true;
         }
 
-        void fetch(int i, State state, Draws draws) {
-            if (!wasLaid(i)) {
+        void restore(int i, State state, Draws draws) {
+            if (!isStored(i)) {
                 return;
             }
             shelf.fetch(i, state);
@@ -505,7 +505,7 @@ public final class CoatTraces {
             return n > 0 ? (seedNow / 65536) % n : 0;
         }
 
-        void addPerson(State state) {
+        void addOne(State state) {
             int sex = draw(2);
             int arms = draw(MOST_ARMS);
             int father = draw(state.people() + 1) - 1;

@@ -25,6 +25,9 @@ public final class ModelTest {
         x = new CoatTraces();
         m = new PlainModel();
         wild = run % 4 == 0 ? 8 : 1;
+        if (run % 2 == 0) {
+            due("keep(0)", x.keep(0), m.keep(0));
+        }
         if (run % 3 == 0) {
             int v = random.nextInt() & Integer.MAX_VALUE;
             due("seed", x.seed(v), m.seed(v));
@@ -55,12 +58,12 @@ public final class ModelTest {
             case 5: due("dated(" + from + ", " + to + ")", x.dated(from, to), m.dated(from, to)); break;
             case 6: due("signAt(" + k + ")", x.signAt(k), m.signAt(k)); break;
             case 7: onePut(); break;
-            case 8: due("born(" + p + ", " + from + ", " + to + ")", x.born(p, from, to), m.born(p, from, to)); break;
-            case 9: due("died(" + p + ", " + from + ", " + to + ")", x.died(p, from, to), m.died(p, from, to)); break;
+            case 8: oneBirth(p, from, to); break;
+            case 9: oneDeath(p, from, to); break;
             case 10: due("rule(" + v + ")", x.rule(v), m.rule(v)); break;
             case 11: oneSign(r); break;
             case 12: if (random.nextInt(4) == 0) { due("wipe()", x.wipe(), m.wipe()); } break;
-            case 13: v = number(0, 4); due("drift(" + v + ")", x.drift(v), m.drift(v)); break;
+            case 13: v = run % 5 == 1 && random.nextInt(8) != 0 ? 0 : number(0, 4); due("drift(" + v + ")", x.drift(v), m.drift(v)); break;
             case 14: v = random.nextInt(8) == 0 ? number(0, 21) : number(0, 4); due("undo(" + v + ")", x.undo(v), m.undo(v)); break;
             case 15: oneEntry(p, k, a); break;
             case 16: if (random.nextInt(8) == 0) { due("tear()", x.tear(), m.tear()); } break;
@@ -72,11 +75,54 @@ public final class ModelTest {
         }
     }
 
-    /** Parents are mostly chosen by their sex, as few would be taken else. */
+    /** Years are mostly set about one that can be, as nearly all would be spoiled else. */
+    private void oneBirth(int p, int from, int to) {
+        int year = possible(p, 12);
+        int a = year < 0 ? from : Math.max(0, year - random.nextInt(60)), b = year < 0 ? to : Math.min(999, year + random.nextInt(60));
+        due("born(" + p + ", " + a + ", " + b + ")", x.born(p, a, b), m.born(p, a, b));
+    }
+
+    private void oneDeath(int p, int from, int to) {
+        int year = possible(p, 14);
+        int a = year < 0 ? from : Math.max(0, year - random.nextInt(60)), b = year < 0 ? to : Math.min(999, year + random.nextInt(60));
+        due("died(" + p + ", " + a + ", " + b + ")", x.died(p, a, b), m.died(p, a, b));
+    }
+
+    private int possible(int p, int what) {
+        int least = m.person(p, what), greatest = m.person(p, what + 1);
+        return least < 0 || random.nextInt(12) == 0 ? -1 : least + random.nextInt(greatest - least + 1);
+    }
+
+    /** Parents are mostly chosen by their sex and mothers among heirs, as few would be taken, few bring arms else. */
     private void onePut() {
-        int sex = number(0, 1), arms = number(0, 9);
-        int father = parent(0), mother = parent(1);
+        if (run % 5 == 1 || run % 5 == 4) {
+            oneOfHouse();
+            return;
+        }
+        int sex = random.nextInt(3) == 0 ? number(0, 1) : 1, arms = number(0, 9);
+        int father = random.nextInt(2) == 0 ? -1 : parent(0), mother = random.nextInt(5) == 0 ? parent(1) : anHeir();
         due("put(" + sex + ", " + arms + ", " + father + ", " + mother + ")", x.put(sex, arms, father, mother), m.put(sex, arms, father, mother));
+    }
+
+    /** A new house that an heir marries into, or the daughter of the latest man: so many quarters come together. */
+    private void oneOfHouse() {
+        int man = m.told(0) - 1;
+        while (man >= 0 && m.person(man, 0) != 0) {
+            man--;
+        }
+        boolean daughter = man >= 0 && random.nextInt(5) > 1;
+        int arms = number(0, 9), father = daughter ? man : -1, mother = anHeir(), sex = daughter ? 1 : 0;
+        due("put(" + sex + ", " + arms + ", " + father + ", " + mother + ")", x.put(sex, arms, father, mother), m.put(sex, arms, father, mother));
+    }
+
+    /** The latest heir but few, so that arms heap up. */
+    private int anHeir() {
+        for (int p = m.told(0) - 1; p >= 0; p--) {
+            if ((m.told(3) >> p & 1) == 1 && random.nextInt(3) != 0) {
+                return p;
+            }
+        }
+        return -1;
     }
 
     private int parent(int sex) {
@@ -85,7 +131,7 @@ public final class ModelTest {
             return -1;
         }
         for (int i = 0; i < 8; i++) {
-            int p = number(0, people);
+            int p = Math.max(number(0, people), random.nextInt(people + 1));
             if (random.nextInt(100) < wild || m.person(p, 0) == sex) {
                 return p;
             }

@@ -48,7 +48,14 @@ final class PlainModel {
     private final long[] imageSeeds = new long[2];
     private long seed;
     private final List<int[]> book = new ArrayList<>();
+    /** What was found of the world as it is, so that the slow ways are gone once for each. */
     private long[][] paths;
+    private List<List<int[]>> rows = new ArrayList<>();
+
+    private void changed() {
+        paths = null;
+        rows = new ArrayList<>();
+    }
 
     private boolean there(int p) {
         return 0 <= p && p < w.people.size();
@@ -63,7 +70,7 @@ final class PlainModel {
         if (past.size() > 20) {
             past.remove(0);
         }
-        paths = null;
+        changed();
     }
 
     // ---- coats
@@ -83,8 +90,14 @@ final class PlainModel {
 
     /** Each quarter: {arms, through}. */
     private List<int[]> quarters(int p) {
-        One o = w.people.get(p);
-        return quarters(o.father, o.mother, o.arms, p);
+        while (rows.size() < w.people.size()) {
+            rows.add(null);
+        }
+        if (rows.get(p) == null) {
+            One o = w.people.get(p);
+            rows.set(p, quarters(o.father, o.mother, o.arms, p));
+        }
+        return rows.get(p);
     }
 
     private List<int[]> quarters(int father, int mother, int arms, int self) {
@@ -531,7 +544,7 @@ final class PlainModel {
         for (int i = 0; i < n; i++) {
             w = past.remove(past.size() - 1);
         }
-        paths = null;
+        changed();
         return w.people.size();
     }
 
@@ -584,7 +597,7 @@ final class PlainModel {
         w = images[i].copy();
         seed = imageSeeds[i];
         past = new ArrayList<>();
-        paths = null;
+        changed();
         return 1;
     }
 }
