@@ -319,7 +319,7 @@ public final class CoatTraces {
         }
 
         boolean has(int p) {
-            return p >= 0 && p < cells[PEOPLE_CELL];
+            return p >= 0 && p < MOST_PEOPLE && p < cells[PEOPLE_CELL];
         }
 
         boolean hasOrNone(int p) {
@@ -393,7 +393,7 @@ public final class CoatTraces {
         }
 
         int signNumber(int k) {
-            return k >= 0 && k < signs() ? cells[FIRST_SIGN + k] : NONE;
+            return k >= 0 && k < MOST_SIGNS && k < signs() ? cells[FIRST_SIGN + k] : NONE;
         }
 
         void addSign(int v) {
@@ -692,7 +692,7 @@ public final class CoatTraces {
         }
 
         void reckon(State state) {
-            moments = 2 * state.people();
+            moments = Math.min(2 * state.people(), 2 * MOST_PEOPLE);
             layBounds(state);
             layGaps(state);
             spoiled = !raiseLeast() || isCrossed();
@@ -702,7 +702,7 @@ public final class CoatTraces {
         }
 
         void layBounds(State state) {
-            for (int p = 0; p < state.people(); p++) {
+            for (int p = 0; p < moments / 2; p++) {
                 least[birth(p)] = state.fact(p, State.BORN_FROM);
                 greatest[birth(p)] = state.fact(p, State.BORN_TO);
                 least[death(p)] = state.fact(p, State.DIED_FROM);
@@ -712,7 +712,7 @@ public final class CoatTraces {
 
         void layGaps(State state) {
             gaps = 0;
-            for (int p = 0; p < state.people(); p++) {
+            for (int p = 0; p < moments / 2; p++) {
                 int father = state.fact(p, State.FATHER);
                 int mother = state.fact(p, State.MOTHER);
                 addGap(birth(p), death(p), 0);
@@ -729,8 +729,9 @@ public final class CoatTraces {
             }
         }
 
+        /** Only moments that there are, so that raising and lowering along the gaps need not look again. */
         void addGap(int from, int to, int years) {
-            if (gaps < gap.length) {
+            if (gaps < gap.length && isMoment(from) && isMoment(to)) {
                 earlier[gaps] = from;
                 later[gaps] = to;
                 gap[gaps] = years;
@@ -785,8 +786,12 @@ public final class CoatTraces {
             return spoiled ? 1 : 0;
         }
 
+        boolean isMoment(int moment) {
+            return moment >= 0 && moment < moments;
+        }
+
         boolean isKnown(int moment) {
-            return !spoiled && moment >= 0 && moment < moments;
+            return !spoiled && isMoment(moment);
         }
 
         int leastOf(int moment) {
