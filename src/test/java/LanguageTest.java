@@ -42,6 +42,7 @@ public final class LanguageTest {
         face();
         innerClasses();
         source();
+        calls();
         CHECK.end();
     }
 
@@ -114,6 +115,21 @@ public final class LanguageTest {
                 CHECK.holds("no package", unit.getPackageName() == null);
                 CHECK.due("one top class", unit.getTypeDecls().size(), 1);
                 new Reader(unit, trees.getSourcePositions()).scan(unit, null);
+            }
+        }
+    }
+
+    private static void calls() throws IOException {
+        JavaCompiler compiler = ToolProvider.getSystemJavaCompiler();
+        try (StandardJavaFileManager files = compiler.getStandardFileManager(null, null, null)) {
+            CallGraph graph = new CallGraph((JavacTask) compiler.getTask(null, files, null, List.of("-proc:none"), null, files.getJavaFileObjects(SOURCE)));
+            Set<String> listed = Set.of("java.lang.Object.<init>", "java.lang.Math.max", "java.lang.Math.min", "java.lang.System.arraycopy");
+            for (String called : graph.library()) {
+                CHECK.holds("no call of the library but what is listed: " + called, listed.contains(called));
+            }
+            CHECK.holds("the calls are seen", graph.methods().size() > 100);
+            for (String method : graph.methods()) {
+                CHECK.holds(method + " goes eight deep at most, without recursion: " + graph.deepest(method), graph.deepest(method) <= 8);
             }
         }
     }

@@ -434,6 +434,23 @@ final class TermsEdges {
         due("each alone could be, both cannot", x.undo(1) + x.born(1, 0, 998), 3);
         due("no longer when one bound is moved by a year", x.born(1, 0, 999), 0);
         due("nobody, nothing to choose", new CoatTraces().told(5), 0);
+        spoiledAndNobody();
+    }
+
+    /** Once there were people whose years cannot be: when all of them are gone, nothing is left to be SPOILED. */
+    private void spoiledAndNobody() {
+        CoatTraces x = new CoatTraces();
+        x.keep(1);
+        x.put(MAN, 0, NONE, NONE);
+        due("one", spoiledBy(x, 500, 499), 1);
+        due("undone", x.undo(3), 0);
+        due("nobody again by undo", x.told(5), 0);
+        due("another, whose years are those at first", x.put(MAN, 0, NONE, NONE) + x.told(5), 0);
+        dueYears("another", x, 0, 0, 999, 0, 999);
+        due("SPOILED once more", spoiledBy(x, 500, 601), 1);
+        due("back", x.goBack(1), 1);
+        due("nobody again by goBack", x.told(5), 0);
+        due("nobody is DATED", x.dated(0, 999), 0);
     }
 
     private void monument() {
